@@ -22,6 +22,12 @@ final class Check {
         due(what, so ? 1 : 0, 1);
     }
 
+    /** The call's answer is a fault of the machine, and fault() tells it. */
+    void fault(GuardAbacus x, String call, int got, int fault) {
+        due(call, got, -10 - fault);
+        due(call + ": fault()", x.fault(), fault);
+    }
+
     int wrong() {
         return wrong;
     }

@@ -99,30 +99,25 @@ public final class FrameTest {
         CHECK.due("sheet -1", x.frame(-1, 1, 0, 9), GuardAbacus.UNKNOWN);
         CHECK.due("lane 3", x.frame(0, 3, 0, 9), GuardAbacus.OUTSIDE);
         CHECK.due("lane -1, nothing there", x.frame(1, -1, 0, -1), GuardAbacus.OUTSIDE);
-        fault(x, "CAST is ahead of SIZE", x.frame(0, 0, 0, -1), 2);
-        fault(x, "nothing is no CAST", x.frame(1, 0, 0, 9), 1);
-        fault(x, "NULL is ahead of SIZE", x.frame(1, 0, 0, -1), 1);
-        fault(x, "SIZE is ahead of INDEX", x.frame(0, 1, -1, -1), 4);
-        fault(x, "SIZE", x.frame(0, 1, 0, Integer.MIN_VALUE), 4);
-        fault(x, "one cell too many", x.frame(0, 1, 0, 10), 3);
-        fault(x, "one cell too far", x.frame(0, 1, 1, 9), 3);
-        fault(x, "i below 0", x.frame(0, 1, -1, 9), 3);
-        fault(x, "no cell, i beyond", x.frame(0, 1, 10, 0), 3);
-        fault(x, "no cell, i below 0", x.frame(0, 1, -1, 0), 3);
-        fault(x, "sums that wrap", x.frame(0, 1, Integer.MAX_VALUE, Integer.MAX_VALUE), 3);
-        fault(x, "sums that wrap", x.frame(0, 1, 5, Integer.MAX_VALUE), 3);
+        CHECK.fault(x, "CAST is ahead of SIZE", x.frame(0, 0, 0, -1), 2);
+        CHECK.fault(x, "nothing is no CAST", x.frame(1, 0, 0, 9), 1);
+        CHECK.fault(x, "NULL is ahead of SIZE", x.frame(1, 0, 0, -1), 1);
+        CHECK.fault(x, "SIZE is ahead of INDEX", x.frame(0, 1, -1, -1), 4);
+        CHECK.fault(x, "SIZE", x.frame(0, 1, 0, Integer.MIN_VALUE), 4);
+        CHECK.fault(x, "one cell too many", x.frame(0, 1, 0, 10), 3);
+        CHECK.fault(x, "one cell too far", x.frame(0, 1, 1, 9), 3);
+        CHECK.fault(x, "i below 0", x.frame(0, 1, -1, 9), 3);
+        CHECK.fault(x, "no cell, i beyond", x.frame(0, 1, 10, 0), 3);
+        CHECK.fault(x, "no cell, i below 0", x.frame(0, 1, -1, 0), 3);
+        CHECK.fault(x, "sums that wrap", x.frame(0, 1, Integer.MAX_VALUE, Integer.MAX_VALUE), 3);
+        CHECK.fault(x, "sums that wrap", x.frame(0, 1, 5, Integer.MAX_VALUE), 3);
         CHECK.due("no cell at the end", x.frame(0, 1, 9, 0), -100);
         CHECK.due("fault", x.fault(), 0);
-        fault(x, "again INDEX", x.frame(0, 1, 0, 10), 3);
+        CHECK.fault(x, "again INDEX", x.frame(0, 1, 0, 10), 3);
         CHECK.due("refused", x.frame(9, 1, 0, 9), GuardAbacus.UNKNOWN);
         CHECK.due("a refusal takes the fault away", x.fault(), 0);
         CHECK.due("still no frame", x.many(0), 0);
         CHECK.due("taken", x.frame(0, 1, 0, 9), 2);
-    }
-
-    private static void fault(GuardAbacus x, String call, int got, int fault) {
-        CHECK.due(call, got, -10 - fault);
-        CHECK.due(call + ": fault()", x.fault(), fault);
     }
 
     private static void frameMakesAllAnew() {

@@ -113,6 +113,11 @@ public final class HowItStoodTest {
         CHECK.due("eighteen need a windowed one", x.kinds(1), 0b100);
         x.slide(0, 1);
         CHECK.due("others as they like", x.mens(0), 0b1111111110);
+        GuardAbacus six = Check.of("a;w10;w10;w10;w10;w10;o99");
+        CHECK.due("the last of six", six.mens(5), 0b1111100000);
+        Check.write(six, 0, 0, "a;w10;w10");
+        six.frame(0, 0, 0, 9);
+        CHECK.due("the wires that were are nobody's", six.mens(0), 0b1111111110);
     }
 
     private static void share(GuardAbacus x, int n, long upper, long lower) {

@@ -18,11 +18,6 @@ public final class SheetsTest {
         CHECK.end();
     }
 
-    private static void fault(GuardAbacus x, String call, long got, int fault) {
-        CHECK.due(call, got, -10 - fault);
-        CHECK.due(call + ": fault()", x.fault(), fault);
-    }
-
     private static void sheet() {
         GuardAbacus x = new GuardAbacus();
         CHECK.due("sheet(4, 3, 61)", x.sheet(4, 3, 61), GuardAbacus.UNKNOWN);
@@ -30,7 +25,7 @@ public final class SheetsTest {
         CHECK.due("sheet(0, 3, -1)", x.sheet(0, 3, -1), GuardAbacus.OUTSIDE);
         CHECK.due("sheet(0, -1, 1)", x.sheet(0, -1, 1), GuardAbacus.OUTSIDE);
         CHECK.due("sheet(0, 0, 61)", x.sheet(0, 0, 61), GuardAbacus.OUTSIDE);
-        fault(x, "sheet(0, 0, -1)", x.sheet(0, 0, -1), 4);
+        CHECK.fault(x, "sheet(0, 0, -1)", x.sheet(0, 0, -1), 4);
         CHECK.due("still nothing", x.lose(0), 0);
         CHECK.due("sheet(0, 0, 0)", x.sheet(0, 0, 0), 1);
         CHECK.due("fault", x.fault(), 0);
@@ -38,7 +33,7 @@ public final class SheetsTest {
         CHECK.due("sheet(3, 2, 60)", x.sheet(3, 2, 60), 1);
         CHECK.due("the last cell", x.put(3, 59, -5), 1);
         CHECK.due("the first cell", x.put(3, 0, 5), 1);
-        fault(x, "a length below 0 leaves it", x.sheet(3, 1, -1), 4);
+        CHECK.fault(x, "a length below 0 leaves it", x.sheet(3, 1, -1), 4);
         CHECK.due("the last cell", x.cell(3, 59, 2), -5);
         CHECK.due("a new row", x.sheet(3, 1, 60), 1);
         CHECK.due("0 at first", x.cell(3, 59, 1), 0);
@@ -54,7 +49,7 @@ public final class SheetsTest {
         x.put(2, 1, 8);
         CHECK.due("something", x.lose(2), 1);
         CHECK.due("nothing again", x.lose(2), 0);
-        fault(x, "put to nothing", x.put(2, 1, 8), 1);
+        CHECK.fault(x, "put to nothing", x.put(2, 1, 8), 1);
         x.lose(2);
         CHECK.due("lose names no fault", x.fault(), 1);
         x.sheet(2, 1, 3);
@@ -65,17 +60,17 @@ public final class SheetsTest {
         GuardAbacus x = new GuardAbacus();
         CHECK.due("put(4, ..)", x.put(4, 0, 0), GuardAbacus.UNKNOWN);
         CHECK.due("put(-1, ..)", x.put(-1, 0, 0), GuardAbacus.UNKNOWN);
-        fault(x, "NULL is ahead of INDEX", x.put(0, -1, 0), 1);
+        CHECK.fault(x, "NULL is ahead of INDEX", x.put(0, -1, 0), 1);
         x.sheet(0, 2, 3);
-        fault(x, "put(0, 3, 1)", x.put(0, 3, 1), 3);
-        fault(x, "put(0, -1, 1)", x.put(0, -1, 1), 3);
-        fault(x, "put(0, least, 1)", x.put(0, Integer.MIN_VALUE, 1), 3);
-        fault(x, "put(0, greatest, 1)", x.put(0, Integer.MAX_VALUE, 1), 3);
+        CHECK.fault(x, "put(0, 3, 1)", x.put(0, 3, 1), 3);
+        CHECK.fault(x, "put(0, -1, 1)", x.put(0, -1, 1), 3);
+        CHECK.fault(x, "put(0, least, 1)", x.put(0, Integer.MIN_VALUE, 1), 3);
+        CHECK.fault(x, "put(0, greatest, 1)", x.put(0, Integer.MAX_VALUE, 1), 3);
         CHECK.due("put(0, 2, 1)", x.put(0, 2, 1), 1);
         CHECK.due("fault", x.fault(), 0);
         CHECK.due("cell(0, 2, 2)", x.cell(0, 2, 2), 1);
         x.sheet(1, 0, 0);
-        fault(x, "a row of none", x.put(1, 0, 1), 3);
+        CHECK.fault(x, "a row of none", x.put(1, 0, 1), 3);
     }
 
     private static void lanes() {
@@ -151,15 +146,15 @@ public final class SheetsTest {
         CHECK.due("first sheet -1", x.copy(-1, 0, 3, 0, 1), GuardAbacus.UNKNOWN);
         CHECK.due("other sheet 4 is ahead of NULL", x.copy(3, 0, 4, 0, 1), GuardAbacus.UNKNOWN);
         CHECK.due("other sheet -1", x.copy(0, 0, -1, 0, 1), GuardAbacus.UNKNOWN);
-        fault(x, "the first is nothing", x.copy(3, -1, 0, 0, 1), 1);
-        fault(x, "the other is nothing", x.copy(0, -1, 3, 0, 1), 1);
-        fault(x, "both are nothing", x.copy(3, 0, 3, 0, 1), 1);
-        fault(x, "CAST is ahead of INDEX", x.copy(0, -1, 2, -1, -1), 2);
-        fault(x, "CAST with none", x.copy(2, 0, 0, 0, 0), 2);
+        CHECK.fault(x, "the first is nothing", x.copy(3, -1, 0, 0, 1), 1);
+        CHECK.fault(x, "the other is nothing", x.copy(0, -1, 3, 0, 1), 1);
+        CHECK.fault(x, "both are nothing", x.copy(3, 0, 3, 0, 1), 1);
+        CHECK.fault(x, "CAST is ahead of INDEX", x.copy(0, -1, 2, -1, -1), 2);
+        CHECK.fault(x, "CAST with none", x.copy(2, 0, 0, 0, 0), 2);
         int[][] index = {{-1, 0, 1}, {0, -1, 1}, {0, 0, -1}, {0, 0, 5}, {2, 0, 4}, {0, 1, 4}, {6, 0, 0}, {0, 5, 0},
             {1, 0, Integer.MAX_VALUE}, {Integer.MAX_VALUE, 0, 1}, {0, Integer.MAX_VALUE, 1}, {0, 0, Integer.MIN_VALUE}};
         for (int[] t : index) {
-            fault(x, "copy from " + t[0] + " to " + t[1] + " of " + t[2], x.copy(0, t[0], 1, t[1], t[2]), 3);
+            CHECK.fault(x, "copy from " + t[0] + " to " + t[1] + " of " + t[2], x.copy(0, t[0], 1, t[1], t[2]), 3);
         }
         reads(x, 1, 2, 20, 21, 22, 23);
         CHECK.due("refused", x.copy(0, 0, 9, 0, 1), GuardAbacus.UNKNOWN);
@@ -226,7 +221,7 @@ public final class SheetsTest {
 
     private static void faultOfTheLatest() {
         GuardAbacus x = Check.of("a;w93;l20;o24");
-        fault(x, "NULL", x.put(3, 0, 0), 1);
+        CHECK.fault(x, "NULL", x.put(3, 0, 0), 1);
         /* None of these names a fault, so none takes it away. */
         x.ofWire(9, 9);
         x.number(0);

@@ -9,6 +9,7 @@ public final class SumsTest {
         add();
         take();
         work();
+        sixWires();
         dayAnswers();
         dayWithFirstWrong();
         dayRefused();
@@ -81,6 +82,7 @@ public final class SumsTest {
         CHECK.due("work(0, 1)", x.work(0, 1), 0);
         CHECK.due("work(7, 0)", x.work(7, 0), 4);
         CHECK.due("work(7, 1)", x.work(7, 1), 1);
+        CHECK.due("work(6, 1): just as many as there is room for", x.work(6, 1), 0);
         CHECK.due("work(30, 0)", x.work(30, 0), 3);
         CHECK.due("work(30, 1)", x.work(30, 1), 0);
         CHECK.due("work(37, 0)", x.work(37, 0), 8);
@@ -96,6 +98,22 @@ public final class SumsTest {
         GuardAbacus none = new GuardAbacus();
         CHECK.due("OUTSIDE is ahead of STATE", none.work(0, 2), GuardAbacus.OUTSIDE);
         CHECK.due("no frame", none.work(0, 0), GuardAbacus.STATE);
+    }
+
+    private static void sixWires() {
+        GuardAbacus x = Check.of("a;w11;w11;w11;w11;w11;w10");
+        CHECK.due("work(1, 0) on six", x.work(1, 0), 6);
+        CHECK.due("work(1, 1) on six", x.work(1, 1), 5);
+        CHECK.due("add(1) on six", x.add(1), 6);
+        stands(x, "32", 0, 0, 0, 0, 0, 1);
+        CHECK.due("take(1) on six", x.take(1), 6);
+        stands(x, "31", 1, 1, 1, 1, 1, 0);
+        Check.write(x, 0, 0, "a;w11;w10");
+        CHECK.due("two in place of six", x.frame(0, 0, 0, 9), 2);
+        CHECK.due("work(1, 0) on two", x.work(1, 0), 2);
+        CHECK.due("work(1, 1) on two", x.work(1, 1), 1);
+        CHECK.due("the wires that were are nobody's", x.number(0), 1);
+        CHECK.due("the wires that were are nobody's", x.number(2), 1);
     }
 
     private static void days(GuardAbacus x, int i, int n, int[] whats, int[] due) {
@@ -159,21 +177,16 @@ public final class SumsTest {
             CHECK.due("OUTSIDE ahead of INDEX", x.day(1, o[0], -1, o[1], o[2]), GuardAbacus.OUTSIDE);
             CHECK.due("OUTSIDE ahead of NULL", x.day(2, o[0], -1, o[1], o[2]), GuardAbacus.OUTSIDE);
         }
-        fault(x, "CAST", x.day(1, 1, -1, 1, 0), 2);
-        fault(x, "NULL", x.day(2, 1, -1, 1, 0), 1);
-        fault(x, "2 n cells", x.day(1, 2, 0, 3, 0), 3);
-        fault(x, "2 n cells from 1 on", x.day(1, 2, 1, 2, 0), 3);
-        fault(x, "i beyond, none taken", x.day(1, 2, 5, 0, 0), 3);
-        fault(x, "i below 0, none taken", x.day(1, 2, -1, 0, 0), 3);
+        CHECK.fault(x, "CAST", x.day(1, 1, -1, 1, 0), 2);
+        CHECK.fault(x, "NULL", x.day(2, 1, -1, 1, 0), 1);
+        CHECK.fault(x, "2 n cells", x.day(1, 2, 0, 3, 0), 3);
+        CHECK.fault(x, "2 n cells from 1 on", x.day(1, 2, 1, 2, 0), 3);
+        CHECK.fault(x, "i beyond, none taken", x.day(1, 2, 5, 0, 0), 3);
+        CHECK.fault(x, "i below 0, none taken", x.day(1, 2, -1, 0, 0), 3);
         CHECK.due("STATE", x.day(1, 2, 0, 2, 0), GuardAbacus.STATE);
         CHECK.due("fault", x.fault(), 0);
         Check.row(x, 1, -1, 7);
         CHECK.due("STATE is ahead of the pairs", x.day(1, 2, 0, 1, 0), GuardAbacus.STATE);
-    }
-
-    private static void fault(GuardAbacus x, String call, int got, int fault) {
-        CHECK.due(call, got, -10 - fault);
-        CHECK.due(call + ": fault()", x.fault(), fault);
     }
 
     private static void pairs(GuardAbacus x, int due, int... cells) {
@@ -207,5 +220,7 @@ public final class SumsTest {
         pairs(x, -100, 99999, 0);
         pairs(x, 560, 0, 10);
         pairs(x, 563, 0, 0);
+        Check.row(x, 1, 1, 0, 0, 2);
+        CHECK.due("a pair that is not taken", x.day(1, 2, 0, 1, 0), 564);
     }
 }

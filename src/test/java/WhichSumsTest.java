@@ -13,11 +13,6 @@ public final class WhichSumsTest {
         CHECK.end();
     }
 
-    private static void fault(GuardAbacus x, String call, int got, int fault) {
-        CHECK.due(call, got, -10 - fault);
-        CHECK.due(call + ": fault()", x.fault(), fault);
-    }
-
     private static void ordered(GuardAbacus x, int slid, int[] cells, int... row) {
         Check.row(x, 1, cells);
         StringBuilder told = new StringBuilder("order of");
@@ -67,10 +62,10 @@ public final class WhichSumsTest {
             CHECK.due("OUTSIDE ahead of INDEX", x.order(1, o[0], -1, o[1], o[2]), GuardAbacus.OUTSIDE);
             CHECK.due("OUTSIDE ahead of NULL", x.order(2, o[0], -1, o[1], o[2]), GuardAbacus.OUTSIDE);
         }
-        fault(x, "CAST", x.order(1, 0, 9, 1, 0), 2);
-        fault(x, "NULL", x.order(2, 0, 9, 1, 0), 1);
-        fault(x, "INDEX", x.order(1, 2, 1, 2, 0), 3);
-        fault(x, "INDEX, none taken", x.order(1, 2, 3, 0, 0), 3);
+        CHECK.fault(x, "CAST", x.order(1, 0, 9, 1, 0), 2);
+        CHECK.fault(x, "NULL", x.order(2, 0, 9, 1, 0), 1);
+        CHECK.fault(x, "INDEX", x.order(1, 2, 1, 2, 0), 3);
+        CHECK.fault(x, "INDEX, none taken", x.order(1, 2, 3, 0, 0), 3);
         CHECK.due("STATE is ahead of the cells", x.order(1, 2, 0, 2, 0), GuardAbacus.STATE);
         CHECK.due("fault", x.fault(), 0);
         GuardAbacus y = Check.of("a;w90;w90");
@@ -78,6 +73,8 @@ public final class WhichSumsTest {
         CHECK.due("100000", y.order(1, 2, 0, 2, 0), GuardAbacus.OUTSIDE);
         CHECK.due("-1", y.order(1, 2, 2, 1, 0), GuardAbacus.OUTSIDE);
         CHECK.due("a cell that is not taken", y.order(1, 2, 0, 1, 0), GuardAbacus.NONE);
+        Check.row(y, 1, 5, -1);
+        CHECK.due("-1 behind 5", y.order(1, 2, 0, 2, 0), GuardAbacus.OUTSIDE);
     }
 
     private static void fewest() {
@@ -109,10 +106,10 @@ public final class WhichSumsTest {
             CHECK.due("OUTSIDE ahead of INDEX", x.fewest(1, o[0], -1, o[1], o[2]), GuardAbacus.OUTSIDE);
             CHECK.due("OUTSIDE ahead of NULL", x.fewest(2, o[0], -1, o[1], o[2]), GuardAbacus.OUTSIDE);
         }
-        fault(x, "CAST", x.fewest(1, 0, 9, 1, 0), 2);
-        fault(x, "NULL", x.fewest(2, 0, 9, 1, 0), 1);
-        fault(x, "INDEX", x.fewest(1, 2, 1, 3, 0), 3);
-        fault(x, "INDEX, none taken", x.fewest(1, 2, 4, 0, 0), 3);
+        CHECK.fault(x, "CAST", x.fewest(1, 0, 9, 1, 0), 2);
+        CHECK.fault(x, "NULL", x.fewest(2, 0, 9, 1, 0), 1);
+        CHECK.fault(x, "INDEX", x.fewest(1, 2, 1, 3, 0), 3);
+        CHECK.fault(x, "INDEX, none taken", x.fewest(1, 2, 4, 0, 0), 3);
         CHECK.due("1000", x.fewest(1, 2, 0, 2, 0), GuardAbacus.OUTSIDE);
         CHECK.due("-1", x.fewest(1, 2, 2, 1, 0), GuardAbacus.OUTSIDE);
         CHECK.due("fault", x.fault(), 0);
@@ -166,11 +163,11 @@ public final class WhichSumsTest {
             CHECK.due("OUTSIDE ahead of INDEX", x.added(1, o[0], -1, o[1], o[2]), GuardAbacus.OUTSIDE);
             CHECK.due("OUTSIDE ahead of NULL", x.added(2, o[0], -1, o[1], o[2]), GuardAbacus.OUTSIDE);
         }
-        fault(x, "CAST", x.added(1, 0, 9, 1, 0), 2);
-        fault(x, "NULL", x.added(2, 0, 9, 1, 0), 1);
-        fault(x, "2 n cells", x.added(1, 2, 0, 3, 0), 3);
-        fault(x, "2 n cells from 1 on", x.added(1, 2, 1, 2, 0), 3);
-        fault(x, "INDEX, none taken", x.added(1, 2, 5, 0, 0), 3);
+        CHECK.fault(x, "CAST", x.added(1, 0, 9, 1, 0), 2);
+        CHECK.fault(x, "NULL", x.added(2, 0, 9, 1, 0), 1);
+        CHECK.fault(x, "2 n cells", x.added(1, 2, 0, 3, 0), 3);
+        CHECK.fault(x, "2 n cells from 1 on", x.added(1, 2, 1, 2, 0), 3);
+        CHECK.fault(x, "INDEX, none taken", x.added(1, 2, 5, 0, 0), 3);
         CHECK.due("STATE is ahead of the twos", x.added(1, 2, 0, 2, 0), GuardAbacus.STATE);
         CHECK.due("fault", x.fault(), 0);
         GuardAbacus y = Check.of("a;w90;w90");
@@ -194,6 +191,11 @@ public final class WhichSumsTest {
         turnIs("a;w97;w97", GuardAbacus.NONE, GuardAbacus.NONE);
         turnIs("a;w91;w91;w91", 0, 0);
         turnIs("a;w92;w98;w93", 1, 1);
+        turnIs("a;w91;w91;w91;w91;w94;w96", 5, 4);
+        GuardAbacus less = Check.of("a;w90;w90;w97");
+        Check.write(less, 0, 0, "a;w95;w91");
+        less.frame(0, 0, 0, 9);
+        CHECK.due("the wires that were are nobody's", less.turn(1), 1);
         GuardAbacus x = Check.of("a;w90;w90");
         CHECK.due("turn(2)", x.turn(2), GuardAbacus.OUTSIDE);
         CHECK.due("turn(-1)", x.turn(-1), GuardAbacus.OUTSIDE);
