@@ -337,7 +337,9 @@ public final class GuardAbacus {
         if (v < 0 || v > GREATEST_SMALL || figure < 0 || figure > GREATEST_FIGURE) {
             return OUTSIDE;
         }
-        return readings.keep(v, w, figure) ? readings.count : FULL;
+        /* It is numbered by how many there are ahead of it: the first is 0. */
+        int itsNumber = readings.count;
+        return readings.keep(v, w, figure) ? itsNumber : FULL;
     }
 
     public int back(int n) {

@@ -23,8 +23,9 @@ public final class HowItStoodTest {
         CHECK.due("figure 19", x.reading(0, 0, 19), GuardAbacus.OUTSIDE);
         CHECK.due("figure -1", x.reading(0, 0, -1), GuardAbacus.OUTSIDE);
         CHECK.due("none is kept", x.many(2), 0);
-        for (int r = 1; r <= 8; r++) {
+        for (int r = 0; r < 8; r++) {
             CHECK.due("reading " + r, x.reading(999, 1, 18), r);
+            CHECK.due("many with reading " + r, x.many(2), r + 1);
         }
         CHECK.due("a ninth", x.reading(0, 0, 0), GuardAbacus.FULL);
         CHECK.due("UNKNOWN is ahead of FULL", x.reading(0, 2, 0), GuardAbacus.UNKNOWN);
@@ -33,8 +34,13 @@ public final class HowItStoodTest {
         CHECK.due("back(9)", x.back(9), GuardAbacus.OUTSIDE);
         CHECK.due("back(-1)", x.back(-1), GuardAbacus.OUTSIDE);
         CHECK.due("back(3)", x.back(3), 5);
-        CHECK.due("numbered by how many there are", x.reading(0, 0, 0), 6);
+        CHECK.due("numbered by how many there are", x.reading(0, 0, 0), 5);
         CHECK.due("back(6)", x.back(6), 0);
+        CHECK.due("all taken back: from 0 on again", x.reading(0, 0, 0), 0);
+        CHECK.due("the second", x.reading(0, 0, 0), 1);
+        Check.write(x, 0, 0, "a;w95;w20");
+        x.frame(0, 0, 0, 9);
+        CHECK.due("a new frame: from 0 on again", x.reading(0, 0, 0), 0);
         GuardAbacus none = new GuardAbacus();
         CHECK.due("no wires", none.reading(0, 0, 0), GuardAbacus.UNKNOWN);
     }

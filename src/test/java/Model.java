@@ -604,7 +604,7 @@ final class Model {
             return -4;
         }
         readings.add(new int[] {v, w, figure});
-        return readings.size();
+        return readings.size() - 1;
     }
 
     int back(int n) {
