@@ -1,6 +1,16 @@
+import java.io.IOException;
+import java.io.UncheckedIOException;
+import java.nio.file.Files;
+import java.nio.file.Path;
+
 /** Counts calls whose answer is not the one that is due, prints them, and ends a test with its exit code. */
 final class Check {
+    private static final Path DOCUMENT = Path.of("../shared/DOC.md");
     private final String name;
+    private String document = null;
+    private String sentence = "";
+    private int sentences = 0;
+    private int askedAtSentence = 0;
     private int asked = 0;
     private int wrong = 0;
 
@@ -8,12 +18,44 @@ final class Check {
         this.name = name;
     }
 
+    /** What follows tests these words of the document: they must stand there, and something must be asked for them. */
+    void says(String words) {
+        closeSentence();
+        if (document == null) {
+            document = plain(read());
+        }
+        sentence = words;
+        sentences++;
+        holds("the document says so", document.contains(plain(words)));
+        askedAtSentence = asked;
+    }
+
+    private void closeSentence() {
+        if (!sentence.isEmpty()) {
+            holds("something is asked", asked > askedAtSentence);
+        }
+        sentence = "";
+    }
+
+    private static String read() {
+        try {
+            return Files.readString(DOCUMENT);
+        } catch (IOException e) {
+            throw new UncheckedIOException(e);
+        }
+    }
+
+    private static String plain(String words) {
+        return words.replaceAll("\\s+", " ");
+    }
+
     void due(String call, long got, long want) {
         asked++;
         if (got != want) {
             wrong++;
             if (wrong <= 40) {
-                System.out.println(name + ": " + call + " answered " + got + ", due is " + want);
+                String of = sentence.isEmpty() ? "" : " \"" + sentence + "\"";
+                System.out.println(name + ":" + of + " " + call + " answered " + got + ", due is " + want);
             }
         }
     }
@@ -33,7 +75,9 @@ final class Check {
     }
 
     void end() {
-        System.out.println(name + ": " + asked + " answers, " + wrong + " not as due");
+        closeSentence();
+        String of = sentences == 0 ? "" : " for " + sentences + " sentences";
+        System.out.println(name + ": " + asked + " answers" + of + ", " + wrong + " not as due");
         if (wrong != 0) {
             System.exit(1);
         }
