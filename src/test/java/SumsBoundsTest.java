@@ -30,6 +30,7 @@ public final class SumsBoundsTest {
         pairFirsts();
         pairWires();
         pairByPair();
+        lastCall();
         CHECK.end();
     }
 
@@ -394,5 +395,17 @@ public final class SumsBoundsTest {
         CHECK.due("the twentieth", dayOf(x, 0, twenty), OUTSIDE);
         CHECK.due("the twentieth is not taken", x.day(1, 2, 0, 19, 0), 163);
         CHECK.due("no wire 0 .. 5 needed for what 15", dayOf(x, 15, 3, 10), UNKNOWN);
+    }
+
+    private static void lastCall() {
+        CHECK.says("An object is used for at most 512 calls after it has been made");
+        /* A sheet, nine cells and the frame: eleven calls. */
+        GuardAbacus x = Check.of("a;w90;w90");
+        for (int call = 12; call < 512; call++) {
+            int ones = (call - 12) % 100;
+            boolean full = ones == 99;
+            CHECK.due("call " + call, full ? x.take(99) : x.add(1), full ? 18 : ones % 10 == 9 ? 10 : 1);
+        }
+        CHECK.due("call 512", x.add(99), 18);
     }
 }

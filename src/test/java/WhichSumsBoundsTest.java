@@ -296,6 +296,14 @@ public final class WhichSumsBoundsTest {
         CHECK.fault(x, "none from beyond", x.added(1, 1, 61, 0, 0), 3);
         CHECK.fault(x, "none from -1 on", x.added(1, 1, -1, 0, 0), 3);
         lanes(x, "added", 1);
+        GuardAbacus three = Check.of("a;w90;w90;w90");
+        Check.row(three, 1, 9, 9, 9, 0, 1, 1, 2, 2, 3);
+        int[] least = {0, 1, 21, 321};
+        int[] greatest = {999, 991, 921, 321};
+        for (int n = 0; n <= 3; n++) {
+            CHECK.due(n + " twos from 3 on: the least", three.added(1, 2, 3, n, 1), least[n]);
+            CHECK.due(n + " twos from 3 on: the greatest", three.added(1, 2, 3, n, 2), greatest[n]);
+        }
     }
 
     private static void addedState() {
