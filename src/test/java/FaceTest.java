@@ -1,10 +1,15 @@
+import java.io.IOException;
 import java.lang.reflect.Constructor;
 import java.lang.reflect.Field;
 import java.lang.reflect.Method;
 import java.lang.reflect.Modifier;
+import java.nio.file.Files;
+import java.nio.file.Path;
 import java.util.Arrays;
 import java.util.Set;
 import java.util.TreeSet;
+import java.util.regex.Matcher;
+import java.util.regex.Pattern;
 
 /** The public face is the document's: its constants, its constructor, its 29 methods, and nothing else. */
 public final class FaceTest {
@@ -15,11 +20,53 @@ public final class FaceTest {
         "long cell 3", "int copy 5", "int tell 1", "int feel 1", "int as 2", "int trace 0", "int fault 0", "int many 1"};
     private static final String[] CONSTANTS = {"UNKNOWN", "OUTSIDE", "STATE", "FULL", "NONE", "LOST"};
 
-    public static void main(String[] args) {
+    public static void main(String[] args) throws IOException {
         constants();
         methods();
         fieldsAndClasses();
+        String document = Files.readString(Path.of("../shared/DOC.md"));
+        String source = Files.readString(Path.of("src/main/java/GuardAbacus.java"));
+        wordForWord(document, source);
+        partsOfTheFace(document, source);
         CHECK.end();
+    }
+
+    /** Each line of the document's own face stands in the source, with its parameters' names and in its order. */
+    private static void wordForWord(String document, String source) {
+        int begin = document.indexOf("```java\n") + 8;
+        int at = 0;
+        int lines = 0;
+        for (String line : document.substring(begin, document.indexOf("```", begin)).split("\n")) {
+            boolean isCall = line.endsWith(");");
+            String due = isCall ? line.replace(");", ") {") : line;
+            if (!line.equals("}")) {
+                int found = source.indexOf("\n" + due + "\n", at);
+                CHECK.holds(due + " stands in its place", found >= 0);
+                at = Math.max(at, found);
+                lines += isCall ? 1 : 0;
+            }
+        }
+        CHECK.due("the constructor and its methods", lines, 1 + METHODS.length);
+    }
+
+    /** "Ahead of the calls .. the interface says: ---- 1 the frame." and so on. */
+    private static void partsOfTheFace(String document, String source) {
+        Matcher part = Pattern.compile("Ahead of the calls (.*) the interface says: (---- \\d [a-z, ]+)\\.").matcher(document);
+        int parts = 0;
+        int calls = 0;
+        while (part.find()) {
+            parts++;
+            int heading = source.indexOf("// " + part.group(2) + "\n");
+            int next = source.indexOf("// ---- ", heading + 1);
+            CHECK.holds(part.group(2) + " stands", heading >= 0);
+            for (String call : part.group(1).replace("`", "").split(", ")) {
+                calls++;
+                Matcher head = Pattern.compile("public (int|long) " + call + "\\(").matcher(source);
+                CHECK.holds(call + " stands behind " + part.group(2), head.find() && head.start() > heading && (next < 0 || head.start() < next));
+            }
+        }
+        CHECK.due("parts", parts, 5);
+        CHECK.due("calls in them", calls, METHODS.length);
     }
 
     private static void constants() {
