@@ -18,6 +18,7 @@ public final class RulesTest {
     private static final String[] NEVER = {"\\bthrow\\b", "\\bthrows\\b", "\\btry\\b", "\\bcatch\\b", "\\bsynchronized\\b",
         "\\bassert\\b", "\\bimport\\b", "\\bpackage\\b", "->", "::", "Exact\\b", "\\bhashCode\\b", "\\btoString\\b", "\\bThread\\b",
         "\\bRandom\\b", "System\\.(?!arraycopy)", "\\bwhile \\(true\\)", "for \\(;;\\)", "\\bstatic \\{", "\\bprotected\\b"};
+    /* What the class uses; what LANGUAGE.md lists beyond it may be put here when it is needed. */
     private static final Set<String> LIBRARY = Set.of("Math.abs", "Math.min", "Math.max", "Long.MIN_VALUE", "System.arraycopy");
     private static final Set<String> CAST_TO = Set.of("byte", "short", "long");
     private static final int MOST_LINES = 60, MOST_PARAMETERS = 7, MOST_DEEP = 8, MOST_CLASSES = 12, MOST_FIELDS = 20;

@@ -219,6 +219,11 @@ public final class WhichSumsBoundsTest {
         CHECK.fault(x, "none from -1 on", x.fewest(1, 1, -1, 0, 0), 3);
         lanes(x, "fewest", 1);
         CHECK.due("what an earlier call reached is forgotten", fewest(x, 14, 5), NONE);
+        Check.row(x, 1, 7, 3, 5);
+        CHECK.due("the cell ahead of them is none of them", x.fewest(1, 2, 1, 1, 14), NONE);
+        CHECK.due("the cell behind them is none of them", x.fewest(1, 2, 1, 1, 5), NONE);
+        CHECK.due("the cell ahead of none", x.fewest(1, 2, 1, 0, 7), NONE);
+        CHECK.due("all three are", x.fewest(1, 2, 0, 3, 15), 3);
     }
 
     private static int added(GuardAbacus x, int what, int... cells) {
